@@ -38,12 +38,15 @@ public final class StrapWindow {
     private static final int MOST_TRIAL_MILES = 60;
     private static final int MOST_REST_MILES = 12;
     private static final int REST_LIE = 4;
+    private static final int REST_LIES = 3;
+    private static final int REST_LIARS = 3;
+    private static final int REST_ROWS = 27;
     private static final int MOST_JOURNEYS = 10;
 
     private static final int REFUSED = -2;
     private static final int NO_PERSON = -100;
     private static final int NO_REST = -200;
-    private static final int NO_PLAN = -3;
+    private static final int WITHOUT_THESE = -3;
 
     // What stands at the reader's place: a byte as itself, or one of these.
     private static final int NUMBER = 256;
@@ -102,7 +105,7 @@ public final class StrapWindow {
     private final Seating seating = new Seating();
     private final Planner planner = new Planner();
     private final Climate climate = new Climate();
-    private final int[] rowSufferings = new int[81];
+    private final int[] rowSufferings = new int[REST_ROWS * REST_LIARS];
     private int drawn = 0;
 
     public StrapWindow() {
@@ -132,7 +135,7 @@ public final class StrapWindow {
         Train told = trainReader.readTrain();
         tape.length = 0;
         if (told == null) {
-            return -2 - tape.fault;
+            return REFUSED - tape.fault;
         }
         scene.begin(told);
         return told.people;
@@ -145,7 +148,7 @@ public final class StrapWindow {
         Law law = lawReader.readLaw();
         tape.length = 0;
         if (law == null) {
-            return -2 - tape.fault;
+            return REFUSED - tape.fault;
         }
         laws[lawCount] = law;
         lawCount++;
@@ -297,7 +300,7 @@ public final class StrapWindow {
 
     public int plan(int n, int what) {
         if (!canTry(n, MOST_PLAN_MILES) || what < NONE || what >= MOST_PLAN_MILES) {
-            return NO_PLAN;
+            return WITHOUT_THESE;
         }
         if (what >= n) {
             return REFUSED;
@@ -354,10 +357,10 @@ public final class StrapWindow {
     }
 
     public int rests(int rule, int n, int what) {
-        if (!hasLaw(rule) || !canTry(n, MOST_REST_MILES) || what < 0 || what > 3) {
+        if (!hasLaw(rule) || !canTry(n, MOST_REST_MILES) || what < 0 || what > REST_LIARS) {
             return NO_REST;
         }
-        int liars = Math.min(3, scene.cabin.train.people);
+        int liars = Math.min(REST_LIARS, scene.cabin.train.people);
         if (what > liars) {
             return NO_PERSON;
         }
@@ -412,7 +415,7 @@ public final class StrapWindow {
 
     public int look(int n) {
         if (!hasTrain() || n < NONE || n > MOST_LOG_MILES) {
-            return NO_PLAN;
+            return WITHOUT_THESE;
         }
         climate.compare(scene);
         if (climate.firstFitting() == NONE) {
@@ -537,14 +540,18 @@ public final class StrapWindow {
     private static int rowsOf(int liars) {
         int rows = 1;
         for (int i = 0; i < liars; i++) {
-            rows *= 3;
+            rows *= REST_LIES;
         }
         return rows;
     }
 
     // A row is a number of base 3, the first person's lie its highest digit: so rows go in order.
     private static int digitInRow(int row, int person, int liars) {
-        return row / rowsOf(liars - 1 - person) % 3;
+        int digits = row;
+        for (int behind = liars - 1; behind > person; behind--) {
+            digits /= REST_LIES;
+        }
+        return digits % REST_LIES;
     }
 
     private static int lieInRow(int row, int person, int liars) {
@@ -558,7 +565,7 @@ public final class StrapWindow {
         }
         goTrial(law, n);
         for (int person = 0; person < liars; person++) {
-            rowSufferings[row * 3 + person] = sufferedInTrial(person);
+            rowSufferings[row * REST_LIARS + person] = sufferedInTrial(person);
         }
     }
 
@@ -566,9 +573,9 @@ public final class StrapWindow {
         for (int person = 0; person < liars; person++) {
             int weight = rowsOf(liars - 1 - person);
             int lowest = row - digitInRow(row, person, liars) * weight;
-            for (int digit = 0; digit < 3; digit++) {
+            for (int digit = 0; digit < REST_LIES; digit++) {
                 int other = lowest + digit * weight;
-                if (rowSufferings[other * 3 + person] < rowSufferings[row * 3 + person]) {
+                if (rowSufferings[other * REST_LIARS + person] < rowSufferings[row * REST_LIARS + person]) {
                     return false;
                 }
             }
@@ -1658,7 +1665,8 @@ public final class StrapWindow {
         private static final int STATES = WARMTHS * HOLES;
         private final int[] crowds = new int[MOST_PLAN_MILES];
         private final int[] wishes = new int[MOST_PLAN_MILES];
-        private final int[] drifts = new int[MOST_PLAN_MILES];
+        private final int[] lateKnobs = new int[MOST_PLAN_MILES];
+        private final int[] colds = new int[MOST_PLAN_MILES];
         private final int[] fixed = new int[MOST_PLAN_MILES * HOLES];
         private final int[] through = new int[HOLES];
         private final int[] choices = new int[MOST_PLAN_MILES * WARMTHS];
@@ -1678,13 +1686,10 @@ public final class StrapWindow {
                 for (int hole = 0; hole < HOLES; hole++) {
                     fixed[i * HOLES + hole] = cabin.sufferingBy(hole, false) - byWarmth;
                 }
-                drifts[i] = 2 * knobAgo(cabin.knobs, cabin.train.lag) - 1 - cabin.train.coldAt(cabin.mile);
+                lateKnobs[i] = knobAgo(cabin.knobs, cabin.train.lag);
+                colds[i] = cabin.train.coldAt(cabin.mile);
                 cabin.go(null);
             }
-        }
-
-        private int warmthBehind(int i, int warmth, int hole) {
-            return Math.max(0, Math.min(MOST_WARMTH, warmth + drifts[i] - hole));
         }
 
         void solve(int n) {
@@ -1700,7 +1705,7 @@ public final class StrapWindow {
         private void solveAt(int i, int warmth) {
             int byWarmth = crowds[i] * warmth * warmth - 2 * warmth * wishes[i];
             for (int hole = 0; hole < HOLES; hole++) {
-                int later = leastLater[warmthBehind(i, warmth, hole) * HOLES + hole];
+                int later = leastLater[warmthAfter(warmth, lateKnobs[i], hole, colds[i]) * HOLES + hole];
                 through[hole] = byWarmth + fixed[i * HOLES + hole] + later;
             }
             int chosen = 0;
@@ -1732,7 +1737,7 @@ public final class StrapWindow {
             int hole = holeNow;
             for (int i = 0; i <= miles && i < MOST_PLAN_MILES; i++) {
                 hole = choices[i * WARMTHS + warmth] >> 3 * hole & 7;
-                warmth = warmthBehind(i, warmth, hole);
+                warmth = warmthAfter(warmth, lateKnobs[i], hole, colds[i]);
             }
             return hole;
         }

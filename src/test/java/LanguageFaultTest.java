@@ -52,6 +52,8 @@ public final class LanguageFaultTest {
         train("train\t1 2 3", 5, 0);
         train("train 1\0002 3", 7, 0);
         train("train 1 2 3\377", 11, 0);
+        train("train \377 2 3", 6, 0);
+        train("\377", 0, 0);
         train("train 000060 3 6", 6, 1);
         train("train 61 3 6", 6, 1);
         train("train 99999 3 6", 6, 1);
@@ -72,6 +74,8 @@ public final class LanguageFaultTest {
         train("train 1 2 3;tunnel 240 240", 19, 1);
         train("train 1 2 3;tunnel 3 2", 21, 1);
         train("train 1 2 3;tunnel 3 240", 21, 1);
+        train("train 1 2 3;cold 240 240 1", 17, 1);
+        train("train 1 2 3;cold 3 240 1", 19, 1);
         train("train 1 2 3;cold 3 2 1", 19, 1);
         train("train 1 2 3;cold 3 3 0", 21, 1);
         train("train 1 2 3;cold 3 3 5", 21, 1);
@@ -171,6 +175,7 @@ public final class LanguageFaultTest {
         rule("pull 1 if or=1", 10, 0);
         rule("pull 1!", 6, 0);
         rule("pull 1\377", 6, 0);
+        rule("pull \377", 5, 0);
         rule("pull 1\n", 6, 0);
         rule("Pull 1", 0, 0);
         rule("train 1 2 3", 0, 0);
