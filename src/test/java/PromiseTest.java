@@ -719,6 +719,9 @@ public final class PromiseTest {
         due("swing(60): held at 60", w.swing(60), 0);
         StrapWindow still = Window.on("train 20 2 3;hole 3");
         due("it settles", still.swing(20), 0);
+        StrapWindow turned = Window.on("train 20 1 0;hole 3");
+        turned.turn(2);
+        due("by the KNOB as it was turned", turned.swing(20), 0);
         // HOLE 5 and KNOB 3: WARMTH stays, below what is wished
         StrapWindow most = Window.on("train 20 3 0;hole 5");
         due("it settles", most.swing(50), 0);
@@ -797,6 +800,12 @@ public final class PromiseTest {
         due("none is RULED", w.look(0), -2);
         due("none is RULED", w.look(NONE), -2);
         due("none is RULED", w.look(61), -3);
+        // held at 60 for 59 MILES: 2 * KNOB - HOLE - 1 is 0 or 1 for three each, and shows in the cold of MILE 59 alone
+        StrapWindow held = Window.on("train 60 0 0;cold 59 59 4");
+        held.log(59, 60);
+        due("look(59)", held.look(59), 12);
+        due("look(60)", held.look(60), 3);
+        due("look(NONE)", held.look(NONE), 60);
     }
 
     private static void seed() {

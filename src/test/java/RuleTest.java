@@ -91,6 +91,7 @@ public final class RuleTest {
         comesTo("train 20 0 0;tunnel 1 1", "soon", 1);
         comesTo("train 20 0 0;tunnel 9 9;tunnel 4 239", "soon", 4);
         comesTo("train 20 0 0;tunnel 239 239", "soon", 239);
+        comesTo("train 20 0 0;tunnel 0 1;tunnel 0 2;tunnel 9 9;tunnel 8 9;tunnel 7 9", "soon", 7);
         comesTo("train 20 0 0;tunnel 0 9", "tunnel", 1);
         comesTo("train 20 0 0;tunnel 1 9", "tunnel", 0);
     }
