@@ -68,7 +68,7 @@ public final class RoomTest {
             case 11: w.ruled(0); break;
             case 12: w.look(-1); break;
             case 13: w.journeys(10, 60, 50, 0); break;
-            // Each a train anew, of a text that came in one call: the dearest that a call alone can make.
+            // A whole text each time counts more calls than 512, and so is on the safe side.
             case 14: feed(w, train, FULL.length()); w.train(); break;
             default: feed(w, train, 20); w.rule(); break;
         }
