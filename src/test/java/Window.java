@@ -48,18 +48,18 @@ final class Window {
         return -2 - (1 + 8 * place + kind);
     }
 
-    /** All that can be seen without a question that changes anything, to tell that nothing happened. */
+    /** What can be seen by few calls, to tell that nothing happened; Edges looks closer. */
     static String sight(StrapWindow w) {
         StringBuilder sight = new StringBuilder();
         for (int what = 0; what <= 14; what++) {
             sight.append(w.count(what)).append(' ');
         }
-        for (int person = 0; person < 8; person++) {
-            for (int what = 0; what <= 9; what++) {
+        for (int person = 0; person < w.count(4); person++) {
+            for (int what : new int[] {0, 1, 4, 5, 6}) {
                 sight.append(w.person(person, what)).append(' ');
             }
         }
-        for (int mile = 0; mile < 240; mile += 1) {
+        for (int mile = 0; mile < 5; mile++) {
             sight.append(w.stretch(mile, 0)).append(w.stretch(mile, 1));
         }
         sight.append(' ').append(w.ruled(0)).append(' ').append(w.look(NONE)).append(' ').append(w.swing(30));
