@@ -1305,7 +1305,6 @@ public final class StrapWindow {
 
         void copyFrom(Cabin other) {
             train = other.train;
-            before = other.before;
             hole = other.hole;
             warmth = other.warmth;
             mile = other.mile;

@@ -13,12 +13,14 @@ public final class EdgeAskTest {
         sitAll();
         plan();
         planRows();
+        plansByHand();
         comes();
         gains();
         gainsOfSeveral();
         rests();
         restsOfFewer();
         swing();
+        swingsByHand();
         log();
         ruled();
         look();
@@ -64,6 +66,11 @@ public final class EdgeAskTest {
         Edges.due("18: nobody at the end", Edges.OVER, "which 0 0", 0, "which 0 1", 0, "which 1 0", 0, "which 1 1", 0);
         Edges.due("18: the least HOLE", Edges.on("train 20 0 0;hole 3;person 0 0 9 20 0"), "which 0 0", 0, "which 0 1", 0);
         Edges.due("18: the greatest HOLE", Edges.on("train 20 0 0;hole 3;person 0 0 9 20 20"), "which 0 0", 5, "which 0 1", 0, "which 1 0", 5);
+        Edges.due("18: no HOLE above 5", Edges.on("train 20 0 0;person 3 0 9 20 20"), "which 0 0", 5, "which 0 1", 225, "which 1 0", 5,
+            "which 1 1", 225);
+        for (int hole = 0; hole < 6; hole++) {
+            Edges.due("18: each HOLE", Edges.on("train 20 0 0;person 3 0 9 20 " + hole), "which 0 0", hole, "which 1 0", hole);
+        }
         Edges.due("18: of all the least", Edges.on("train 20 0 0;hole 3;person 7 0 9 20 5"), "which 0 0", 0, "which 0 1", 25, "which 1 0", 0,
             "which 1 1", 25);
         // by HOLE 2 and by 3 9 + 4
@@ -92,6 +99,7 @@ public final class EdgeAskTest {
         Edges.due("19: those they have", Edges.on("train 20 0 0;hole 5;person 7 0 9 20 20"), "sit 0 0", 400, "sit 0 1", 5, "sit 0 2", 7, "sit 0 3",
             NONE);
         Edges.due("19: of several the least HOLE", Edges.on("train 20 0 0;hole 5;person 7 0 9 20 20"), "sit 1 0", 400, "sit 1 1", 0, "sit 1 2", 7);
+        Edges.due("19: no HOLE above 5", Edges.on("train 20 0 0;person 3 0 9 20 20"), "sit 1 0", 225, "sit 1 1", 5, "sit 0 0", 400, "sit 0 1", 0);
         Edges.due("19: of several the first way", Edges.on("train 20 0 0;person 5 0 9 20 4;person 2 0 9 20 4;person 7 0 9 20 4"), "sit 0 0", 48,
             "sit 0 2", 2, "sit 0 3", 5, "sit 0 4", 7);
         // by HOLE 2 AIR is 8 in SEAT 0 and 0 in 7; by no other is it better
@@ -155,7 +163,60 @@ public final class EdgeAskTest {
         // WARMTH 10, then 9 - h0, then 14 - h0 - h1 by the KNOB turned: 0 + 4 + 1 by 1, 2
         planIs("KNOB as it is, and LAG", Edges.on("train 10 0 1;person 7 0 240 10 0", "turn 3"), 3, 5, 1, 2, 1);
         planIs("who gets IN and OUT", Edges.on("train 0 0 0;person 0 1 2 0 12"), 4, 16, 1, 2, 1, 0);
+        // by HOLE 3 9 each and 16
+        planIs("all together", Edges.on("train 0 0 0;hole 3;person 3 0 240 0 0;person 6 0 240 0 0;person 2 0 240 0 10"), 1, 34, 3);
+        // behind the COLD it is 5 - HOLE
+        planIs("COLDS", Edges.on("train 10 0 0;hole 1;person 7 0 240 10 0;cold 0 0 4"), 2, 25, 0, 0);
         planIs("a tunnel", Edges.on("train 0 0 0;hole 1;person 3 0 240 0 1;tunnel 1 1"), 3, 1, 1, 0, 1);
+    }
+
+    // The least of all rows, each gone by hand.
+    private static void plansByHand() {
+        String[][] rides = {Edges.on("train 14 1 0;hole 2;person 7 0 240 10 0"), Edges.on("train 30 3 2;hole 4;person 0 0 2 24 9;person 5 1 240 31 4", "turn 0"),
+            Edges.on("train 9 2 1;person 2 0 240 12 7;person 6 2 3 60 0;tunnel 1 2;cold 0 1 3;cold 1 3 1"), Edges.RICH,
+            Edges.on("train 59 3 0;hole 1;person 1 0 240 60 3"), Edges.on("train 2 0 0;hole 1;person 1 0 240 0 3")};
+        for (String[] ride : rides) {
+            for (int n = 1; n <= 4; n++) {
+                byHand(ride, n);
+            }
+        }
+    }
+
+    private static void byHand(String[] ride, int n) {
+        int rows = 1;
+        for (int i = 0; i < n; i++) {
+            rows *= 6;
+        }
+        int least = MOST;
+        String best = "";
+        for (int row = 0; row < rows; row++) {
+            String holes = String.format("%" + n + "s", Integer.toString(row, 6)).replace(' ', '0');
+            int much = ridden(Edges.then(ride, "force -1"), holes, least);
+            if (much < least) {
+                least = much;
+                best = holes;
+            }
+        }
+        Window.due("20: by hand, " + n + " MILES, how much", Script.of(ride).make("plan " + n + " -1"), least);
+        for (int i = 0; i < n; i++) {
+            Window.due("20: by hand, " + n + " MILES, HOLE " + i, Script.of(ride).make("plan " + n + " " + i), best.charAt(i) - '0');
+        }
+    }
+
+    private static int ridden(String[] ride, String holes, int tooMuch) {
+        Script script = Script.of(ride);
+        int hole = script.make("count 3");
+        int much = 0;
+        for (int i = 0; i < holes.length(); i++) {
+            int next = holes.charAt(i) - '0';
+            if (Math.abs(next - hole) > 1) {
+                return tooMuch;
+            }
+            script.make("pull " + next);
+            hole = next;
+            much += script.make("mile");
+        }
+        return much;
     }
 
     private static void comes() {
@@ -219,6 +280,11 @@ public final class EdgeAskTest {
         gain("nearer below", "8", "pull 5 if window=2;pull 2", -2, 144);
         // wants 2 by AIR 7 to 10: of -3 (6) and 2 (11)
         gain("nearer above", "9", "pull 5 if window=2;pull 2", 2, 121 - 1);
+        // wants 1 by AIR 3 to 6
+        gain("the LIE 1", "2", "pull 1 if window=1;pull 5", 1, 324 - 4);
+        gain("the LIE -1", "3", "pull 1 if window=0;pull 5", -1, 289 - 1);
+        Edges.due("of -1 and 1 the lesser", Edges.on("train 20 0 0;hole 2;person 3 0 9 20 2", "rule: pull 2 if more+less=1;pull 5"), "gains 0 0 1 0", -1,
+            "gains 0 0 1 1", 9);
         Edges.due("of these the lesser", Edges.on("train 20 0 0;hole 2;person 1 0 9 20 6", "rule: pull 2 if less+more=1;pull 5"), "gains 0 0 1 0", -2,
             "gains 0 0 1 1", 81);
         Edges.due("others as they are", Edges.on("train 20 0 0;person 0 0 9 20 8;person 3 0 9 20 0;says 0 18", "rule: pull window"), "gains 0 0 1 0", 0,
@@ -262,6 +328,10 @@ public final class EdgeAskTest {
         Edges.due("the row 4", one, "rests 2 1 0", 1, "rests 2 1 1", 4);
         Edges.due("there is none", Edges.on("train 20 0 0;hole 3;person 0 0 9 20 0;person 1 0 9 20 12", "rule: pull 0 if window=more;pull 4"),
             "rests 0 1 0", 0, "rests 0 1 1", -100, "rests 0 1 2", -100, "rests 0 1 3", -100);
+        // each alone by the window for a MILE, with AIR 8: by HOLE 2 they SUFFER least
+        Edges.due("the row 0 4 -4", Edges.on("train 20 0 0;person 0 0 1 20 8;person 0 1 2 20 8;person 0 2 3 20 8",
+            "rule: pull window-1 if mile=1;pull window+1 if mile=2;pull window"), "rests 0 3 0", 1, "rests 0 3 1", 0, "rests 0 3 2", 4, "rests 0 3 3", -4,
+            "rests 0 2 0", 3, "rests 0 2 3", -4, "rests 0 1 0", 9, "rests 0 1 2", -4);
         Edges.due("the fourth says what they say", Edges.on("train 20 0 0;person 3 0 9 20 0;person 6 0 9 20 0;person 7 0 9 20 0;person 0 0 9 20 8;"
             + "says 3 18", "rule: pull window"), "rests 0 1 0", 27, "say 3 0", 9, "rests 0 1 0", 27);
     }
@@ -276,6 +346,9 @@ public final class EdgeAskTest {
         Edges.due("24: to 3 below it, to 0 above it, not at it", Edges.on("train 20 0 0"), "swing 20", 5, "turn 3", 0, "swing 20", 5);
         // for 21 by KNOB 3 2 more, by 0 4 less: 22, 18, 20, 22
         Edges.due("24: not at it", Edges.on("train 20 2 0;hole 3"), "swing 20", 0, "swing 21", 4);
+        Edges.due("24: not at it, KNOB as it was turned", Edges.on("train 20 1 0;hole 3", "turn 2"), "swing 20", 0);
+        // 19 by the KNOB told, 24, 29 by 3, then by 0 down to 20, 19, to 3 but 18, 23, to 0 but 28, 27 ..
+        Edges.due("24: LAG", Edges.on("train 20 0 1", "turn 3"), "swing 20", 28 - 18);
         Edges.due("24: by HOLE 5 KNOB 3 makes no more", Edges.on("train 20 0 0;hole 5"), "swing 20", 0, "swing 21", 0, "swing 60", 0);
         Edges.due("24: no COLDS", Edges.on("train 20 0 0;cold 0 239 4;cold 0 239 4"), "swing 20", 5);
         Edges.due("24: HOLE as it is", Edges.on("train 20 0 0", "rule: pull 5", "force 0"), "swing 20", 5);
@@ -283,6 +356,35 @@ public final class EdgeAskTest {
         Edges.due("24: at MILE 240", Edges.OVER, "swing 0", 0, "count 0", 0);
         // by KNOB 1 it is at 60 by then; to 20 it is farther than any MILE left
         Edges.due("24: at MILE 240", Edges.miles(Edges.on("train 20 1 0"), 240), "count 0", 60, "swing 20", 5);
+    }
+
+    // Whoever looks turns the knob ahead of each mile: by real calls, as far as the train goes.
+    private static void swingsByHand() {
+        for (int lag = 0; lag <= 6; lag++) {
+            for (int hole = 0; hole <= 5; hole++) {
+                for (int wished = 0; wished <= 60; wished += 15) {
+                    String[] ride = Edges.on("train 33 1 " + lag + ";hole " + hole, "turn 2");
+                    Window.due("24: LAG " + lag + ", HOLE " + hole + ", for " + wished, Script.of(ride).make("swing " + wished), swung(ride, wished));
+                }
+            }
+        }
+    }
+
+    private static int swung(String[] ride, int wished) {
+        Script script = Script.of(ride);
+        int greatest = 0;
+        int least = 60;
+        for (int mile = 0; mile < 160; mile++) {
+            int warmth = script.make("count 0");
+            // a round is shorter than 80 MILES, and begins ahead of MILE 80
+            greatest = mile < 80 ? 0 : Math.max(greatest, warmth);
+            least = mile < 80 ? 60 : Math.min(least, warmth);
+            if (warmth != wished) {
+                script.make(warmth < wished ? "turn 3" : "turn 0");
+            }
+            script.make("mile");
+        }
+        return greatest - least;
     }
 
     private static void log() {
@@ -397,6 +499,17 @@ public final class EdgeAskTest {
         // nobody aboard in MILE 0: a DRAW, 0; then 21468, mod 100 68
         String[] later = Edges.on("train 20 0 0;person 0 1 240 20 8");
         Edges.due("if anybody is aboard", later, "journeys 1 2 68 0", 1 + 64, "journeys 1 2 69 0", 1 + 0);
+        // wants 1, 2, 3: by HOLE 1 26 together, by 2 10, by 3 6; the second DRAW from 0, 1, 2 is 21468, 5758, 22817
+        String[] three = Edges.on("train 20 0 0;person 3 0 240 20 1;person 6 0 240 20 2;person 2 0 240 20 7");
+        String[] four = Edges.on("train 20 0 0;person 0 5 240 20 20;person 3 0 240 20 1;person 6 0 240 20 2;person 2 0 240 20 7");
+        int[] due = {26, 10, 6};
+        for (int x = 0; x < 3; x++) {
+            Edges.due("a DRAW mod how many", Edges.then(three, "seed " + x), "journeys 1 1 100 0", due[x], "journeys 1 1 100 1", 2);
+            Edges.due("that one of them, by numbers", Edges.then(four, "seed " + x), "journeys 1 1 100 0", due[x], "journeys 1 1 100 1", 2);
+        }
+        // 9988 mod 100 is 88, then 22117 mod 3 is 1; nobody PULLS: 1 + 4 + 49
+        Edges.due("from one to the next x goes on", three, "journeys 2 1 100 0", 26 + 10, "journeys 2 1 88 0", 26 + 54, "journeys 2 1 89 0", 26 + 10,
+            "journeys 2 1 100 1", 4);
         Edges.nothing("x as it was", Edges.on("train 20 0 0;person 0 0 240 20 8", "seed 9"), 0, "journeys 10 1 100 0");
     }
 }

@@ -265,6 +265,12 @@ public final class EdgeRuleTest {
         hole("the first CLAUSE without a TEST", train, "pull 1;pull 2", 1);
         hole("the first CLAUSE whose TEST holds", train, "pull 1 if 1=2;pull 2 if 1=1;pull 4", 2);
         hole("the HOLE stays without", train, "pull 1 if 1=2;pull 2 if 2=1", 3);
+        String[] signs = {"<", "<=", "=", ">=", ">"};
+        for (int i = 0; i < 5; i++) {
+            hole("a TEST that holds: below", train, "pull 1 if 1" + signs[i] + "2;pull 2", i < 2 ? 1 : 2);
+            hole("a TEST that holds: at", train, "pull 1 if 2" + signs[i] + "2;pull 2", i >= 1 && i <= 3 ? 1 : 2);
+            hole("a TEST that holds: above", train, "pull 1 if 3" + signs[i] + "2;pull 2", i > 2 ? 1 : 2);
+        }
         Edges.due("without a RULE it stays", Edges.on(train, "rule: pull 1"), "ahead 1 0", 3);
         // 9223372036854775807, the greatest there is
         String greatest = "92233*10000*10000*10000*100+72036*10000*10000*10+85477*10000+5807";
@@ -342,6 +348,10 @@ public final class EdgeRuleTest {
         String[] nobody = Edges.on("train 9 0 0;hole 4;person 0 1 9 9 9");
         value("the HOLE without anybody", nobody, "middle", 4);
         value("the HOLE without anybody", nobody, "most", 4);
+        value("of one who wants 0", Edges.on("train 9 0 0;hole 4;person 7 0 9 9 2"), "middle", 0);
+        value("of one who wants 0", Edges.on("train 9 0 0;hole 4;person 7 0 9 9 2"), "most", 0);
+        value("of one who wants 5", Edges.on("train 9 0 0;hole 4;person 3 0 9 9 20"), "middle", 5);
+        value("of one who wants 5", Edges.on("train 9 0 0;hole 4;person 3 0 9 9 20"), "most", 5);
         String one = "train 9 0 0;hole 4;person 3 0 9 9 2";
         value("of one", Edges.on(one), "middle", 2);
         value("of one", Edges.on(one), "most", 2);

@@ -74,7 +74,11 @@ public final class OracleTest {
     }
 
     private int some(int low, int high) {
-        return random.nextInt(25) == 0 ? (random.nextBoolean() ? low - 1 : high + 1) : low + random.nextInt(high - low + 1);
+        if (random.nextInt(25) != 0) {
+            return low + random.nextInt(high - low + 1);
+        }
+        int[] beyond = {low - 1, high + 1, Integer.MIN_VALUE, Integer.MAX_VALUE};
+        return beyond[random.nextInt(4)];
     }
 
     private void act() {
@@ -196,7 +200,7 @@ public final class OracleTest {
             case 4:
             case 5: {
                 int m = random.nextInt(4) == 0 ? some(1, 24) : some(1, 8);
-                int w = some(-1, random.nextInt(3) == 0 ? 23 : Math.max(0, m - 1));
+                int w = some(-1, random.nextInt(3) == 0 ? 23 : Math.max(1, Math.min(24, m)) - 1);
                 same("plan " + m + " " + w, window.plan(m, w), oracle.plan(m, w));
                 break;
             }
